@@ -1,5 +1,3 @@
-import java.util.Arrays;
-
 /** Codes that say how numbers and texts look; what each call promises stands in DOC.md. */
 public final class NumberDress {
     public static final int NONE = -1;
@@ -914,9 +912,9 @@ public final class NumberDress {
         private static final int MOST = LONGEST * LONGEST;
 
         private char[] row = new char[LONGEST];
-        private int length;
+        int length;
         // A look is kept until the code or the value changes, since it is asked for sign by sign.
-        private boolean done;
+        boolean done;
 
         void clear() {
             length = 0;
@@ -928,7 +926,9 @@ public final class NumberDress {
 
         void put(int sign) {
             if (length >= row.length && row.length < MOST) {
-                row = Arrays.copyOf(row, row.length * 2);
+                char[] longer = new char[row.length * 2];
+                System.arraycopy(row, 0, longer, 0, row.length);
+                row = longer;
             }
             if (length >= 0 && length < row.length) {
                 row[length] = (char) sign;
