@@ -322,8 +322,7 @@ public final class NumberDress {
 
     /** Reads what is typed into a code, up to the first item that can not stand. */
     private static final class Reader {
-        private final char[] signs = new char[LONGEST];
-        private final char[] smalls = new char[LONGEST];
+        private char[] signs = new char[0];
         private int length;
         private Code code = new Code();
         private Section section = new Section();
@@ -331,7 +330,8 @@ public final class NumberDress {
 
         /** The place where the code is wrong, or NONE. */
         int read(char[] typed, int typedLength) {
-            takeSigns(typed, typedLength);
+            signs = typed;
+            length = Math.min(typedLength, typed.length);
             code.clear();
             int from = 0;
             for (int index = 0; index < SECTIONS; index++) {
@@ -356,16 +356,6 @@ public final class NumberDress {
             Code made = code;
             code = old;
             return made;
-        }
-
-        private void takeSigns(char[] typed, int typedLength) {
-            length = 0;
-            for (int i = 0; i < typedLength && i < typed.length && i < LONGEST; i++) {
-                char sign = typed[i];
-                signs[i] = sign;
-                smalls[i] = sign >= 'A' && sign <= 'Z' ? (char) (sign + 32) : sign;
-                length++;
-            }
         }
 
         private int readSection(int index, int from, int to) {
@@ -753,7 +743,8 @@ public final class NumberDress {
         }
 
         private char small(int place) {
-            return place >= 0 && place < length && place < smalls.length ? smalls[place] : 0;
+            char sign = place >= 0 && place < length && place < signs.length ? signs[place] : 0;
+            return sign >= 'A' && sign <= 'Z' ? (char) (sign + 32) : sign;
         }
 
         private boolean goesOn(int place, String word) {

@@ -22,6 +22,9 @@ public final class DateLookTest {
         b.dueLook(c, "61", "1900-03-01");
         b.dueLook(c, "366", "1900-12-31");
         b.dueLook(c, "36585", "2000-02-29");
+        b.dueLook(c, "36586", "2000-03-01");
+        b.dueLook(c, "182682", "2400-02-29");
+        b.dueLook(c, "182683", "2400-03-01");
         b.dueLook(c, "73110", "2100-03-01");
         b.dueLook(c, "2958465", "9999-12-31");
         b.dueLook(c, "2958.465E3", "9999-12-31");
@@ -49,6 +52,8 @@ public final class DateLookTest {
         b.dueLook("ss.000", "0.00001", "00.864");
         b.dueLook("s.0 s.000", "0.00001", "0.8 0.864");
         b.dueLook("s.", "0.00001", "1.");
+        b.dueLook("s", "0.00015625", "14");
+        b.dueLook("s", "0.000156249999999", "13");
     }
 
     private static void minutes(Bench b) {

@@ -17,6 +17,8 @@ public final class FractionLookTest {
         b.dueLook("?/?", "2.999", "3/1");
         b.dueLook("?/?", "0", " /1");
         b.dueLook("0/8", "0", "0/8");
+        b.dueLook("0/9", "0.5", "4/9");
+        b.dueLook("0/199", "1", "199/199");
         b.dueLook("0/8", "-0.01", "0/8");
         b.dueLook("0/8", "-2", "-16/8");
         b.dueLook("0 0/8", "-0.01", "0    ");
