@@ -1,117 +1,231 @@
-/** Promises 7 and 8: looks in GENERAL, PLAIN and NUMBER sections, with powers, and their signs. */
+/** Promises 7 and 8: looks in GENERAL and NUMBER sections, with powers and without. */
 public final class NumberLookTest {
     public static void main(String[] args) {
         Bench b = new Bench();
-        general(b);
-        sections(b);
-        places(b);
+        literals(b);
+        generalPlain(b);
+        generalOtherwise(b);
+        rounding(b);
+        wholePlaces(b);
         thousands(b);
-        scales(b);
+        noWholePlace(b);
         decimals(b);
+        point(b);
         powers(b);
+        powersThatGrow(b);
+        powerLooks(b);
         b.end();
     }
 
-    private static void general(Bench b) {
+    private static void literals(Bench b) {
+        b.sentence("literals are themselves, and stand where they stand:");
+        b.dueLook("\"a\"0\"b\"0\"c\".\"d\"0\"e\"0\"f\"", "12.34", "a1b2c.d3e4f");
+        b.dueLook("0\"x\"0", "12345", "1234x5");
+        b.dueLook("\"a\"#\"b\"", "0", "ab");
+        b.dueLook("<0E+0>", "5", "<5E+0>");
+        b.dueLook("\"a\"0\"b\"0/0\"c\"", "2", "a2b   c");
+    }
+
+    private static void generalPlain(Bench b) {
+        b.sentence("0, or for 0.d1 .. dn times 10^p: p -5 .. 21: plain (0. and -p zeros and the digits; or digits with a point "
+            + "behind p of them; or digits and p - n zeros);");
         String c = "General";
+        b.dueLook(c, "0", "0");
+        b.dueLook(c, "0E300", "0");
         b.dueLook(c, "1200", "1200");
-        b.dueLook(c, "12E19", "120000000000000000000");
-        b.dueLook(c, "1E20", "100000000000000000000");
-        b.dueLook(c, "1E21", "1E21");
-        b.dueLook(c, "123E19", "1.23E21");
-        b.dueLook(c, "0.00000123", "0.00000123");
-        b.dueLook(c, "0.000000123", "1.23E-7");
+        b.dueLook(c, "1.200", "1.2");
+        b.dueLook(c, "0.5", "0.5");
+        b.dueLook(c, "0.05", "0.05");
         b.dueLook(c, "0.000001", "0.000001");
         b.dueLook(c, "0.0000010", "0.000001");
-        b.dueLook(c, "-0.5", "-0.5");
-        b.dueLook(c, "-12345.678", "-12345.678");
+        b.dueLook(c, "0.00000123", "0.00000123");
+        b.dueLook(c, "12345.678", "12345.678");
         b.dueLook(c, "12345678901234567", "12345678901234567");
-        b.dueLook("0;General", "-5", "5");
+        b.dueLook(c, "1234567890123456.7", "1234567890123456.7");
+        b.dueLook(c, "0.12345678901234567", "0.12345678901234567");
+        b.dueLook(c, "1E20", "100000000000000000000");
+        b.dueLook(c, "12E19", "120000000000000000000");
+        b.dueLook(c, "99999999999999999E4", "999999999999999990000");
     }
 
-    private static void sections(Bench b) {
-        b.dueLook("\"a\"", "-5", "a");
-        b.dueLook("0;\"below \"0", "-5", "below 5");
-        b.dueLook("0;(0);\"z\"", "-0.1", "(0)");
-        b.dueLook("0;(0);\"z\"", "0.1", "0");
-        b.dueLook("0;(0);\"z\"", "0", "z");
-        b.dueLook("0;@", "-5", "-5");
-        b.dueLook("@", "-5.5", "-5.5");
-        b.dueLook("0;", "-5", "");
-        b.dueLook("0", "-0.4", "0");
-        b.dueLook("0", "-0.5", "-1");
-        b.dueLook("#", "-0.4", "");
-        b.dueLook("\"x\"0", "-5", "-x5");
-        b.dueLook("[red]_)\\;*x$0", "-5", "- ;$5");
+    private static void generalOtherwise(Bench b) {
+        b.sentence("otherwise d1, a point and the others if there are any, E, perhaps -, p - 1.");
+        String c = "General";
+        b.dueLook(c, "1E21", "1E21");
+        b.dueLook(c, "10E20", "1E21");
+        b.dueLook(c, "123E19", "1.23E21");
+        b.dueLook(c, "0.0000001", "1E-7");
+        b.dueLook(c, "0.000000123", "1.23E-7");
+        b.dueLook(c, "-0.000000999", "-9.99E-7");
+        b.dueLook(c, "99999999999999999E300", "9.9999999999999999E316");
+        b.dueLook(c, "1E-350", "1E-350");
     }
 
-    private static void places(Bench b) {
-        b.dueLook("0000", "12", "0012");
-        b.dueLook("?0?", "0", " 0 ");
-        b.dueLook("#0#", "0", "0");
-        b.dueLook("0#", "0", "0");
-        b.dueLook("0-0-0", "12345", "123-4-5");
-        b.dueLook("\"a\"0", "123", "a123");
-        b.dueLook(".00", "12.345", "12.35");
-        b.dueLook("\"a\".0", "0.5", "a.5");
-        b.dueLook("\"a\".0", "-12", "-a12.0");
-        b.dueLook("#.", "0", ".");
-        b.dueLook("0", "1E300", "1" + "0".repeat(300));
-        b.dueLook("0.0", "1E-350", "0.0");
-    }
-
-    private static void thousands(Bench b) {
-        b.dueLook("#,##0", "0", "0");
-        b.dueLook("#,##0", "123", "123");
-        b.dueLook("#,##0", "1234567", "1,234,567");
-        b.dueLook("0,000", "5", "0,005");
-        b.dueLook("?,???", "5", "   5");
-        b.dueLook("0,0", "1234567", "1,234,567");
-        b.dueLook("0,0\"x\"000", "12345", "12,x345");
-        b.dueLook("0,0\"x\"00", "12345", "12,3x45");
-        b.dueLook("#,#", "-1234.5", "-1,235");
-    }
-
-    private static void scales(Bench b) {
-        b.dueLook("0%", "0.125", "13%");
-        b.dueLook("%0%", "0.125", "%1250%");
-        b.dueLook("0,", "1500", "2");
-        b.dueLook("0,", "1499", "1");
-        b.dueLook("0,,.00", "12345678", "12.35");
-        b.dueLook("0,%", "12345", "1235%");
-        b.dueLook("#,##0,", "1234567890", "1,234,568");
-    }
-
-    private static void decimals(Bench b) {
-        b.dueLook("0.0##", "1.5", "1.5");
-        b.dueLook("0.0??", "1.5", "1.5  ");
-        b.dueLook("0.###", "1.05", "1.05");
-        b.dueLook("0.#0", "1", "1.0");
-        b.dueLook("0.#", "1", "1.");
-        b.dueLook("0.0\"x\"0", "1.25", "1.2x5");
+    private static void rounding(Bench b) {
+        b.sentence("the number, times 100 for each %, a thousandth for each such comma, is rounded to as many digits behind the "
+            + "point as there are decimal places (halves away from 0).");
+        b.dueLook("0", "0.5", "1");
+        b.dueLook("0", "0.49999999999999999", "0");
+        b.dueLook("0", "2.5", "3");
+        b.dueLook("0", "-2.5", "-3");
+        b.dueLook("0.0", "0.05", "0.1");
+        b.dueLook("0.0", "0.049", "0.0");
         b.dueLook("0.00", "1.005", "1.01");
         b.dueLook("0.00", "-1.005", "-1.01");
         b.dueLook("0.00", "1.0049999999999999", "1.00");
         b.dueLook("0.0", "9.95", "10.0");
+        b.dueLook("0", "99999999999999999E-17", "1");
+        b.dueLook("0", "99999999999999999E-18", "0");
+        b.dueLook("0%", "0.125", "13%");
+        b.dueLook("0%", "0.004999", "0%");
+        b.dueLook("%0%", "0.125", "%1250%");
+        b.dueLook("0,", "1500", "2");
+        b.dueLook("0,", "1499", "1");
+        b.dueLook("0,", "500", "1");
+        b.dueLook("0,,.00", "12345678", "12.35");
+        b.dueLook("0,%", "12345", "1235%");
+        b.dueLook("0.0", "1E-350", "0.0");
+        b.dueLook("0", "1E300", "1" + "0".repeat(300));
+        b.dueLook("0" + ",".repeat(63), "5E188", "1");
+        b.dueLook("0" + ",".repeat(63), "4.9E188", "0");
+    }
+
+    private static void wholePlaces(Bench b) {
+        b.sentence("Behind - , if it has one, its whole digits (none for 0) stand in the whole places from the last one on; those "
+            + "that are left over stand before the first one; places that are left: 0 gives 0, ? a space, # nothing.");
+        b.dueLook("0000", "12", "0012");
+        b.dueLook("????", "12", "  12");
+        b.dueLook("####", "12", "12");
+        b.dueLook("#?0", "0", " 0");
+        b.dueLook("?0?", "0", " 0 ");
+        b.dueLook("0#", "0", "0");
+        b.dueLook("0?#", "0", "0 ");
+        b.dueLook("#", "0", "");
+        b.dueLook("?", "0", " ");
+        b.dueLook("0-0-0", "12345", "123-4-5");
+        b.dueLook("0-0-0", "-12345", "-123-4-5");
+        b.dueLook("0-0-0", "12", "0-1-2");
+        b.dueLook("\"a\"0", "123", "a123");
+        b.dueLook("000", "123", "123");
+        b.dueLook("000", "1234", "1234");
+        b.dueLook("0".repeat(64), "5", "0".repeat(63) + "5");
+    }
+
+    private static void thousands(Bench b) {
+        b.sentence("With thousands, a comma stands behind each digit or 0 that is given, of which just 3, 6, .. whole places or "
+            + "left over digits come behind (not behind spaces).");
+        b.dueLook("#,##0", "0", "0");
+        b.dueLook("#,##0", "123", "123");
+        b.dueLook("#,##0", "1234", "1,234");
+        b.dueLook("#,##0", "123456", "123,456");
+        b.dueLook("#,##0", "1234567", "1,234,567");
+        b.dueLook("0,000", "5", "0,005");
+        b.dueLook("0,000000", "5", "0,000,005");
+        b.dueLook("?,???", "5", "   5");
+        b.dueLook("?,???", "1005", "1,005");
+        b.dueLook("0?,???", "5", "0   5");
+        b.dueLook("0#,###", "5", "05");
+        b.dueLook("0,0", "1234567", "1,234,567");
+        b.dueLook("0,0", "1E9", "1,000,000,000");
+        b.dueLook("0,0\"x\"000", "12345", "12,x345");
+        b.dueLook("0,0\"x\"00", "12345", "12,3x45");
+        b.dueLook("#,#", "-1234.5", "-1,235");
+        b.dueLook("0,0.0000", "1234.5678", "1,234.5678");
+        b.dueLook("#,##0,", "1234567890", "1,234,568");
+        b.dueLook("0000", "1234567", "1234567");
+    }
+
+    private static void noWholePlace(Bench b) {
+        b.sentence("Without any whole place, whole digits stand before the point.");
+        b.dueLook(".00", "12.345", "12.35");
+        b.dueLook(".0", "0.5", ".5");
+        b.dueLook(".0", "0", ".0");
+        b.dueLook(".0", "0.96", "1.0");
+        b.dueLook("\"a\".0", "-12", "-a12.0");
+        b.dueLook("\"a\".0\"b\"", "1E20", "a1" + "0".repeat(20) + ".0b");
+    }
+
+    private static void decimals(Bench b) {
+        b.sentence("Decimal digits from the first on: # gives nothing, ? a space, where it and all behind it are 0; otherwise the "
+            + "digit.");
+        b.dueLook("0.000", "1.5", "1.500");
+        b.dueLook("0.0##", "1.5", "1.5");
+        b.dueLook("0.0??", "1.5", "1.5  ");
+        b.dueLook("0.###", "1.05", "1.05");
+        b.dueLook("0.???", "1.05", "1.05 ");
+        b.dueLook("0.#0", "1", "1.0");
+        b.dueLook("0.?0", "1", "1. 0");
+        b.dueLook("0.#?", "1", "1. ");
+        b.dueLook("0.##0#", "1.001", "1.001");
+        b.dueLook("0.##0#", "1.0001", "1.0001");
+        b.dueLook("0.0\"x\"0", "1.25", "1.2x5");
         b.dueLook("0.0000000000000000000", "1.5E-17", "0.0000000000000000150");
-        b.dueLook("0", "0.5", "1");
-        b.dueLook(".0", "0.05", ".1");
-        b.dueLook("0.0", "0.049", "0.0");
+        b.dueLook("0." + "#".repeat(62), "1E-62", "0." + "0".repeat(61) + "1");
+        b.dueLook("0." + "#".repeat(62), "4E-63", "0.");
+    }
+
+    private static void point(Bench b) {
+        b.sentence("The point is always there if it is in the section.");
+        b.dueLook("0.", "5", "5.");
+        b.dueLook("#.#", "0", ".");
+        b.dueLook("0.#", "1", "1.");
+        b.dueLook("#.", "0", ".");
+        b.dueLook("0.#E+0", "5", "5.E+0");
     }
 
     private static void powers(Bench b) {
-        b.dueLook("0E+0", "0", "0E+0");
-        b.dueLook("0E-0", "5", "5E0");
-        b.dueLook("0E+#", "5", "5E+");
-        b.dueLook("0e-??", "5E-3", "5E- 3");
-        b.dueLook("0.0E+00", "9.96", "1.0E+01");
+        b.sentence("with w whole places (1 at least), e is the greatest multiple of w for which the number divided by 10^e is not "
+            + "below 1 (0 for 0);");
+        b.dueLook("0E+0", "1", "1E+0");
+        b.dueLook("0E+0", "0.9", "9E-1");
+        b.dueLook("0E+0", "10", "1E+1");
+        b.dueLook("##0E+0", "1", "1E+0");
+        b.dueLook("##0E+0", "999", "999E+0");
+        b.dueLook("##0E+0", "1000", "1E+3");
+        b.dueLook("##0E+0", "0.1", "100E-3");
         b.dueLook("##0.0E+0", "0.00012", "120.0E-6");
-        b.dueLook("##0E+0", "-999.6", "-1E+3");
-        b.dueLook("000E+0", "1", "001E+0");
-        b.dueLook(".00E+0", "123", "1.23E+2");
-        b.dueLook("0E+0", "1E-350", "1E-350");
-        b.dueLook("\"<\"0.0#E-0\">\"", "1000", "<1.0E3>");
-        b.dueLook("0E+000", "2E5", "2E+005");
         b.dueLook("00E+0", "0.5", "50E-2");
+        b.dueLook("00E+0", "100", "01E+2");
+        b.dueLook("0000E+0", "123456", "0012E+4");
+        b.dueLook(".00E+0", "123", "1.23E+2");
+        b.dueLook(".0E+0", "0.5", "5.0E-1");
+        b.dueLook("0E+0", "0", "0E+0");
+        b.dueLook("##0E+0", "0", "0E+0");
+        b.dueLook("0E+0", "99999999999999999E300", "1E+317");
+        b.dueLook("0E+0", "1E-350", "1E-350");
+        b.dueLook("##0E+0", "1E-350", "10E-351");
+    }
+
+    private static void powersThatGrow(Bench b) {
+        b.sentence("it is rounded to its decimal places; if then it has more whole digits than w it is that for e and w more.");
+        b.dueLook("0E+0", "9.4", "9E+0");
+        b.dueLook("0E+0", "9.5", "1E+1");
+        b.dueLook("0.0E+00", "9.94", "9.9E+00");
+        b.dueLook("0.0E+00", "9.96", "1.0E+01");
+        b.dueLook("##0E+0", "-999.6", "-1E+3");
+        b.dueLook("##0E+0", "99.6", "100E+0");
+        b.dueLook("##0.0E+0", "999.95", "1.0E+3");
+        b.dueLook("00E+0", "99.5", "01E+2");
+        b.dueLook("0E+0", "0.95", "1E+0");
+        b.dueLook(".0E+0", "9.95", "1.0E+1");
+    }
+
+    private static void powerLooks(Bench b) {
+        b.sentence("It looks as a NUMBER does, then E, then - for e below 0, + otherwise with E+, and e in its places as whole "
+            + "digits.");
+        b.dueLook("000E+0", "1", "001E+0");
+        b.dueLook("?0.0#E-0", "5", " 5.0E0");
+        b.dueLook("0E-0", "5", "5E0");
+        b.dueLook("0E-0", "50", "5E1");
+        b.dueLook("0E-0", "0.5", "5E-1");
+        b.dueLook("0E+0", "0.5", "5E-1");
+        b.dueLook("0E+#", "5", "5E+");
+        b.dueLook("0E-#", "5", "5E");
+        b.dueLook("0E+?", "5", "5E+ ");
+        b.dueLook("0e-??", "5E-3", "5E- 3");
+        b.dueLook("0E+000", "2E5", "2E+005");
+        b.dueLook("0E+0", "2E123", "2E+123");
+        b.dueLook("0E+#0#", "2E5", "2E+05");
+        b.dueLook("\"<\"0.0#E-0\">\"", "1000", "<1.0E3>");
     }
 }
