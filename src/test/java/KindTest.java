@@ -6,6 +6,7 @@ public final class KindTest {
         plain(b);
         noItem(b);
         signsInOtherKinds(b);
+        itemsOfText(b);
         b.end();
     }
 
@@ -82,5 +83,17 @@ public final class KindTest {
         b.dueCode(",0", 0);
         b.dueCode("/0", 0);
         b.dueCode("..0", 1);
+    }
+
+    private static void itemsOfText(Bench b) {
+        b.sentence("Of a TEXT: @.");
+        b.dueRight("@", "@@", "\"a\"@-@", "@".repeat(64));
+        for (char sign = 33; sign <= 126; sign++) {
+            boolean stands = "$-+():!^&'~{}<>=.,/%@".indexOf(sign) >= 0;
+            b.dueCode("@ " + sign, stands ? NumberDress.NONE : 2);
+        }
+        b.dueCode("@E+0", 1);
+        b.dueCode("@AM/PM", 1);
+        b.dueCode("@[s]", 1);
     }
 }

@@ -2,7 +2,9 @@
 public final class NumberLookTest {
     public static void main(String[] args) {
         Bench b = new Bench();
+        oneLook(b);
         literals(b);
+        generalDigits(b);
         generalPlain(b);
         generalOtherwise(b);
         rounding(b);
@@ -17,6 +19,24 @@ public final class NumberLookTest {
         b.end();
     }
 
+    private static void oneLook(Bench b) {
+        b.sentence("codes are read strictly, and each value has one look.");
+        String[] codes = {"General", "0", "#,##0.0##", "0.00E+00", "##0.0E-0", "# ?/?", "0/8", "yyyy-mm-dd h:mm:ss.0", "0%", "0,"};
+        String[] looks = {"1250.5", "1251", "1,250.5", "1.25E+03", "1.3E3", "1250 1/2", "10004/8", "1903-06-03 12:00:00.0",
+            "125050%", "1"};
+        for (int i = 0; i < codes.length; i++) {
+            b.dueLook(codes[i], "1250.5", looks[i]);
+            b.dueLook(codes[i], "1250.5000000000000", looks[i]);
+            b.dueLook(codes[i], "1.2505E3", looks[i]);
+        }
+        String[] noughts = {"0", "0", "0.0", "0.00E+00", "0.0E0", "    ", "0/8", "1900-01-00 0:00:00.0", "0%", "0"};
+        for (int i = 0; i < codes.length; i++) {
+            b.dueLook(codes[i], "0", noughts[i]);
+            b.dueLook(codes[i], "0E300", noughts[i]);
+            b.dueLook(codes[i], "-0E-350", noughts[i]);
+        }
+    }
+
     private static void literals(Bench b) {
         b.sentence("literals are themselves, and stand where they stand:");
         b.dueLook("\"a\"0\"b\"0\"c\".\"d\"0\"e\"0\"f\"", "12.34", "a1b2c.d3e4f");
@@ -24,6 +44,18 @@ public final class NumberLookTest {
         b.dueLook("\"a\"#\"b\"", "0", "ab");
         b.dueLook("<0E+0>", "5", "<5E+0>");
         b.dueLook("\"a\"0\"b\"0/0\"c\"", "2", "a2b   c");
+    }
+
+    private static void generalDigits(Bench b) {
+        b.sentence("GENERAL: the number's digits (v without zeros at its end) and its scale");
+        b.dueLook("General", "5000E-3", "5");
+        b.dueLook("General", "5000E-4", "0.5");
+        b.dueLook("General", "10000000000000000E-16", "1");
+        b.dueLook("General", "10000000000000000E5", "1E21");
+        b.dueLook("General", "10000000000000000E4", "1" + "0".repeat(20));
+        b.dueLook("General", "10000000000000000E-22", "0.000001");
+        b.dueLook("General", "10000000000000000E-23", "1E-7");
+        b.dueLook("General", "10500E0", "10500");
     }
 
     private static void generalPlain(Bench b) {

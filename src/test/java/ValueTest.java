@@ -4,6 +4,7 @@ public final class ValueTest {
         Bench b = new Bench();
         numbers(b);
         numbersOutOfRange(b);
+        numberTerms(b);
         zeroHasNoSign(b);
         texts(b);
         longestText(b);
@@ -42,6 +43,14 @@ public final class ValueTest {
             b.dueThrow("number", () -> b.dress.number(true, w[0], w[1], w[2]), IllegalArgumentException.class);
         }
         b.due("the value stays", b.look(), "7000000005");
+    }
+
+    private static void numberTerms(Bench b) {
+        b.sentence("A NUMBER is a sign and v times 10^s, v whole and below 10^17, s -350 .. 300, without its sign;");
+        b.dueLook("0", "99999999999999999E300", "9".repeat(17) + "0".repeat(300));
+        b.dueLook("0", "-99999999999999999", "-" + "9".repeat(17));
+        b.dueLook("0.0E+0", "99999999999999999E-350", "1.0E-333");
+        b.dueLook("0.0E+0", "-1E-350", "-1.0E-350");
     }
 
     private static void zeroHasNoSign(Bench b) {
