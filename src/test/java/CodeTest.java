@@ -69,6 +69,9 @@ public final class CodeTest {
         b.dueCode("General ", 0);
         b.dueCode(" General", 1);
         b.dueCode("Genera", 0);
+        for (int i = 0; i < 7; i++) {
+            b.dueCode("general".substring(0, i) + "x" + "general".substring(i + 1), 0);
+        }
         b.dueCode("GeneralGeneral", 0);
         b.dueCode("[red]General", 5);
         b.dueCode("General\"\"", 0);

@@ -28,7 +28,10 @@ public final class DateLookTest {
         b.dueLook(DAY, "0", "1900-01-00");
         b.dueLook("d", "1E-350", "0");
         b.dueLook(DAY, "2958465", "9999-12-31");
-        b.dueLook(DAY, "2958.465E3", "9999-12-31");
+        b.dueLook(DAY, "2958465.0000000000", "9999-12-31");
+        b.dueLook(DAY, "6E1", "1900-02-29");
+        b.dueLook(DAY, "36E3", "1998-07-24");
+        b.dueLook("d", "3E6", "#");
         b.dueLook("\"x\"d", "2958466", "#");
         b.dueLook("d", "2958466.0000000001", "#");
         b.dueLook("d", "9999999", "#");

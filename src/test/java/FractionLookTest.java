@@ -73,6 +73,8 @@ public final class FractionLookTest {
         b.dueLook("0/8", "2", "16/8");
         b.dueLook("0/8", "-2", "-16/8");
         b.dueLook("0/199", "1", "199/199");
+        b.dueLook("0/0", "12E3", "12000/1");
+        b.dueLook("0/8", "1E8", "800000000/8");
         b.dueLook("?/?", "3", "3/1");
         b.dueLook("??/??", "3.14159", "311/99");
     }

@@ -69,6 +69,9 @@ public final class KindTest {
         b.dueCode(",[red]0", 0);
         b.dueCode(",AM0", 1);
         b.dueCode(",A/0", 0);
+        b.dueCode(",x/p0", 0);
+        b.dueCode(",axp0", 0);
+        b.dueCode(",a/x0", 0);
         b.dueCode(",]0", 0);
         b.dueCode(",\"0", 0);
         b.dueCode(",\"d0", 1);

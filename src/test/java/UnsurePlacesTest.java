@@ -98,6 +98,7 @@ public final class UnsurePlacesTest {
         b.dueCode("/\";0", 1);
         b.dueCode("@;\"", 1);
         b.dueCode(",\"a\\;0", 0);
+        b.dueCode(",\"_;*;0", 0);
     }
 
     private static void openQuotesAreNone(Bench b) {
