@@ -82,7 +82,7 @@ public final class CodeTest {
     }
 
     private static void quotes(Bench b) {
-        b.sentence("QUOTES, \" and all to the next \" (each character between is a LITERAL)");
+        b.sentence("Items in all sections: QUOTES, \" and all to the next \" (each character between is a LITERAL)");
         b.dueLook("\"a\"", "5", "a");
         b.dueLook("\"\"", "5", "");
         b.dueLook("\"a\"\"b\"", "5", "ab");
@@ -126,7 +126,7 @@ public final class CodeTest {
     }
 
     private static void ownLiterals(Bench b) {
-        b.sentence("one character that is a literal itself: a space, or one of $ - + ( ) : ! ^ & ' ~ { } < > =.");
+        b.sentence("and one character that is a literal itself: a space, or one of $ - + ( ) : ! ^ & ' ~ { } < > =.");
         b.dueLook(OWN_LITERALS, "5", OWN_LITERALS);
         b.dueLook("0" + OWN_LITERALS, "5", "5" + OWN_LITERALS);
         b.dueLook("d" + OWN_LITERALS, "5", "5" + OWN_LITERALS);

@@ -14,7 +14,7 @@ public final class DateItemsTest {
     }
 
     private static void rows(Bench b) {
-        b.sentence("rows of one letter, as long as it goes: Y of 2 or 4, M of 1 to 5, D of 1 to 4, H and S of 1 or 2");
+        b.sentence("Of a DATE: rows of one letter, as long as it goes: Y of 2 or 4, M of 1 to 5, D of 1 to 4, H and S of 1 or 2");
         String[] letters = {"y", "m", "d", "h", "s"};
         String[] lengths = {"24", "12345", "1234", "12", "12"};
         for (int i = 0; i < letters.length; i++) {

@@ -24,7 +24,7 @@ public final class DateLookTest {
     }
 
     private static void range(Bench b) {
-        b.sentence("a number from 0 to below 2958466: days, with parts; if it is another one, the look is one #.");
+        b.sentence("DATE: a number from 0 to below 2958466: days, with parts; if it is another one, the look is one #.");
         b.dueLook(DAY, "0", "1900-01-00");
         b.dueLook("d", "1E-350", "0");
         b.dueLook(DAY, "2958465", "9999-12-31");
@@ -87,7 +87,7 @@ public final class DateLookTest {
     }
 
     private static void firstDays(Bench b) {
-        b.sentence("0 is day 0 of January 1900; 1 the first one; 60 the 29th of February 1900;");
+        b.sentence("DAYS: 0 is day 0 of January 1900; 1 the first one; 60 the 29th of February 1900;");
         b.dueLook(DAY, "0.5", "1900-01-00");
         b.dueLook(DAY, "1", "1900-01-01");
         b.dueLook(DAY, "31", "1900-01-31");

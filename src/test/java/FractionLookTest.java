@@ -16,7 +16,7 @@ public final class FractionLookTest {
     }
 
     private static void nearest(Bench b) {
-        b.sentence("the number's whole part, and the rest as n / d: of all d from 1 to 10^k - 1 for k places (or just the number "
+        b.sentence("FRACTION: the number's whole part, and the rest as n / d: of all d from 1 to 10^k - 1 for k places (or just the number "
             + "that is given) and n from 0 to d that which is nearest to the rest");
         b.dueLook("# ?/?", "1.5", "1 1/2");
         b.dueLook("# ?/?", "0.1", " 1/9");

@@ -27,7 +27,7 @@ public final class NewObjectTest {
     }
 
     private static void lastCall(Bench b) {
-        b.sentence("An object is used for at most 512 calls after it has been made");
+        b.sentence("An object is used for at most 512 calls after it has been made; what later calls answer is free.");
         b.dress.number(true, 0, 25, -1);
         for (int call = 2; call < 511; call++) {
             b.dress.type(call % 9 == 8 ? 0 : '0');

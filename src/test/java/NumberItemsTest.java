@@ -18,7 +18,7 @@ public final class NumberItemsTest {
     }
 
     private static void placesAndPoint(Bench b) {
-        b.sentence("a PLACE 0 # or ?: WHOLE before the point, DECIMAL behind it; . the POINT, one at most");
+        b.sentence("Further items of a NUMBER: a PLACE 0 # or ?: WHOLE before the point, DECIMAL behind it; . the POINT, one at most");
         b.dueRight("0#?.?#0", ".0", "0.", "0.0 0");
         b.dueCode(".0.", 2);
         b.dueCode("0..0", 2);

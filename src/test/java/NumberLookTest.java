@@ -20,7 +20,9 @@ public final class NumberLookTest {
     }
 
     private static void oneLook(Bench b) {
-        b.sentence("codes are read strictly, and each value has one look.");
+        b.sentence("Codes that say how numbers and texts look: sections for what is above, below and just 0 and for texts, places "
+            + "for digits with thousands, percents and powers, fractions with the nearest denominators, dates and times with a "
+            + "calendar of its own, words and signs between; codes are read strictly, and each value has one look.");
         String[] codes = {"General", "0", "#,##0.0##", "0.00E+00", "##0.0E-0", "# ?/?", "0/8", "yyyy-mm-dd h:mm:ss.0", "0%", "0,"};
         String[] looks = {"1250.5", "1251", "1,250.5", "1.25E+03", "1.3E3", "1250 1/2", "10004/8", "1903-06-03 12:00:00.0",
             "125050%", "1"};
@@ -38,7 +40,7 @@ public final class NumberLookTest {
     }
 
     private static void literals(Bench b) {
-        b.sentence("literals are themselves, and stand where they stand:");
+        b.sentence("LOOKS, item by item; literals are themselves, and stand where they stand:");
         b.dueLook("\"a\"0\"b\"0\"c\".\"d\"0\"e\"0\"f\"", "12.34", "a1b2c.d3e4f");
         b.dueLook("0\"x\"0", "12345", "1234x5");
         b.dueLook("\"a\"#\"b\"", "0", "ab");
@@ -47,7 +49,7 @@ public final class NumberLookTest {
     }
 
     private static void generalDigits(Bench b) {
-        b.sentence("GENERAL: the number's digits (v without zeros at its end) and its scale");
+        b.sentence("GENERAL: the number's digits (v without zeros at its end) and its scale, as with numerals:");
         b.dueLook("General", "5000E-3", "5");
         b.dueLook("General", "5000E-4", "0.5");
         b.dueLook("General", "10000000000000000E-16", "1");
@@ -94,7 +96,7 @@ public final class NumberLookTest {
     }
 
     private static void rounding(Bench b) {
-        b.sentence("the number, times 100 for each %, a thousandth for each such comma, is rounded to as many digits behind the "
+        b.sentence("NUMBER: the number, times 100 for each %, a thousandth for each such comma, is rounded to as many digits behind the "
             + "point as there are decimal places (halves away from 0).");
         b.dueLook("0", "0.5", "1");
         b.dueLook("0", "0.49999999999999999", "0");
@@ -206,7 +208,7 @@ public final class NumberLookTest {
     }
 
     private static void powers(Bench b) {
-        b.sentence("with w whole places (1 at least), e is the greatest multiple of w for which the number divided by 10^e is not "
+        b.sentence("POWER: with w whole places (1 at least), e is the greatest multiple of w for which the number divided by 10^e is not "
             + "below 1 (0 for 0);");
         b.dueLook("0E+0", "1", "1E+0");
         b.dueLook("0E+0", "0.9", "9E-1");

@@ -14,7 +14,7 @@ public final class SectionTest {
     }
 
     private static void forText(Bench b) {
-        b.sentence("For a text: the TEXT section, if there is one, or the fourth;");
+        b.sentence("WHICH SECTION. For a text: the TEXT section, if there is one, or the fourth;");
         b.dueTextLook("@\"!\"", "x", "x!");
         b.dueTextLook("0;@\"!\"", "x", "x!");
         b.dueTextLook("0;0;@\"!\"", "x", "x!");

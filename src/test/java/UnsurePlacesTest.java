@@ -8,7 +8,12 @@ public final class UnsurePlacesTest {
     public static void main(String[] args) {
         Bench b = new Bench();
         signOfFraction(b);
+        restAsFraction(b);
+        numeratorAsWholeDigits(b);
+        partsBehindSeconds(b);
         severalParts(b);
+        digitsOfParts(b);
+        kindOfFourth(b);
         signsInFourth(b);
         itemsInFourth(b);
         semicolonInOpenQuotes(b);
@@ -38,10 +43,44 @@ public final class UnsurePlacesTest {
         b.dueLook("#/#", "-1000000000", "#");
     }
 
+    private static void restAsFraction(Bench b) {
+        b.sentence("FRACTION: the number's whole part, and the rest as n / d");
+        b.dueLook("0 0/8", "-1.01", "-1    ");
+        b.dueLook("0 0/8", "-1.1", "-1 1/8");
+        b.dueLook("0 0/8", "-0.1", "-0 1/8");
+        b.dueLook("0 0/0", "-0.01", "0    ");
+        b.dueLook("0 0/999", "-0.0001", "0      ");
+        b.dueLook("0/8;@", "-0.01", "0/8");
+        b.dueLook("0;0/8", "-0.1", "1/8");
+    }
+
+    /** As whole digits: none for 0, so that a place of n gives a 0, a space or nothing, and no digit of the number. */
+    private static void numeratorAsWholeDigits(Bench b) {
+        b.sentence("n in the numerator's places, as whole digits, /, and d");
+        b.dueLook("00/8", "-0.01", "00/8");
+        b.dueLook("00/8", "-0.1", "-01/8");
+        b.dueLook("0?#/8", "-0.01", "0 /8");
+        b.dueLook("?/??", "-0.001", " /1 ");
+        b.dueLook("?/00", "-0.001", " /01");
+        b.dueLook("?/??", "-0.01", "-1/99");
+        b.dueLook("\"-\"#/8", "-0.01", "-/8");
+    }
+
+    /** Each PARTS stands behind seconds of its own, and its zeros are counted alone. */
+    private static void partsBehindSeconds(Bench b) {
+        b.sentence("directly behind a row of S, or [ of s ], a point and one to three 0 (all that stand there: with four the item "
+            + "can not stand): PARTS of the second");
+        b.dueRight("s.0 s.00 s.000", "s.000s.000", "ss.00[s].00[ss].0", "s.0;s.000;s.00");
+        b.dueCode("s.000 .0", 7);
+        b.dueCode("s.000.0", 6);
+        b.dueCode("s.0000 s.0", 1);
+        b.dueCode("s.0 s.0000", 5);
+    }
+
     /** Tenths, hundredths, thousandths: a section has as many of these as its longest PARTS; shorter ones are cut. */
     private static void severalParts(Bench b) {
         b.sentence("the seconds that it makes are rounded to as many parts as the section has of the second (at most three; halves "
-            + "up)");
+            + "up), and may make a day more; below them all is cut off.");
         b.dueLook("s.0 s.000", "0.00001", "0.8 0.864");
         b.dueLook("s.000 s.0", "0.00001", "0.864 0.8");
         b.dueLook("s.0 s.0", "0.00001", "0.9 0.9");
@@ -51,6 +90,31 @@ public final class UnsurePlacesTest {
         b.dueLook("s.000 s.000", "0.00001", "0.864 0.864");
         b.dueLook("s s.0", "0.00001", "0 0.9");
         b.dueLook("s;s.000", "0.00001", "1");
+        b.dueLook("d s.0 s.0", "1.9999997", "2 0.0 0.0");
+        b.dueLook("d s.00 s.0", "1.9999997", "1 59.97 59.9");
+        b.dueLook("d s.0 s.00 m", "1.9999997", "1 59.9 59.97 1");
+        b.dueLook("h:mm s.0 s.0", "0.4999997", "12:00 0.0 0.0");
+    }
+
+    private static void digitsOfParts(Bench b) {
+        b.sentence("parts: a point and digits");
+        b.dueLook("s.0 s.00 s.000", "0.00001", "0.8 0.86 0.864");
+        b.dueLook("s.000 s.00 s.0", "0.00001", "0.864 0.86 0.8");
+        b.dueLook("s.000 s.0", "0", "0.000 0.0");
+        b.dueLook("[s].0 s.000", "1.00001", "86400.8 0.864");
+    }
+
+    /** The fourth section's kind is found as any other's is; only then the item that makes it can not stand. */
+    private static void kindOfFourth(Bench b) {
+        b.sentence("The KIND of a section: that of the first of its items which is, or begins with,");
+        b.dueCode(";;;,#", 3);
+        b.dueCode(";;;,?", 3);
+        b.dueCode(";;;,[h]", 4);
+        b.dueCode(";;;,a/p", 4);
+        b.dueCode(";;;,@0", 5);
+        b.dueCode(";;;,d0", 4);
+        b.dueCode(";;;,\\0", NumberDress.NONE);
+        b.dueCode(";;;,\\00", 3);
     }
 
     /** A comma or stroke of a section that would be a NUMBER is judged as a NUMBER's, in the fourth section, too. */
